@@ -347,6 +347,11 @@ final class Model {
         return 1;
     }
 
+    /** Where a car will be seen if it follows another one; else what is given. */
+    int seenBy(int c, int d, int n, int otherwise) {
+        return no(c) || no(d) || c == d || n < 1 || n > 30 ? otherwise : atBy(c, d, n);
+    }
+
     private int count() { return state.cabs.size(); }
 
     private Cab cab(int c) { return state.cabs.get(c); }

@@ -34,7 +34,10 @@ public final class ModelTest {
             String name = NAMES[kind];
             if (name.equals("town") && (narrow || random.nextInt(8) != 0)) continue;
             if (name.equals("tear") && random.nextInt(3) != 0) continue;
-            call(run, cab, model, name, new int[] {draw(name, 0, random), draw(name, 1, random), draw(name, 2, random)});
+            int[] a = {draw(name, 0, random), draw(name, 1, random), draw(name, 2, random)};
+            // What is seen by mere chance fits nobody soon, so most of it is made to be so by somebody.
+            if (name.equals("see") && random.nextInt(4) != 0) a[2] = model.seenBy(a[0], random.nextInt(8), a[1], a[2]);
+            call(run, cab, model, name, a);
             if (random.nextInt(40) == 0) call(run, cab, model, "feed", new int[] {random.nextInt(300) - 20, 0, 0});
         }
     }
