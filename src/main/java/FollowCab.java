@@ -25,6 +25,7 @@ public final class FollowCab {
     private static final int MOST_UNDONE = 20;
     private static final int MOST_IMAGES = 2;
     private static final int BILLION = 1000000000;
+    private static final int GREATEST_SEED = 2147483647;
     private static final int FAULT_BASE = -10;
 
     private static final int CANNOT_STAND = 1;
@@ -35,7 +36,7 @@ public final class FollowCab {
     private static final int[] TENS = {1, 10, 100, 1000, 10000, 100000};
 
     private final Text text = new Text();
-    private final Reader reader = new Reader();
+    private final Reader reader = new Reader(text);
     private final Scene now = new Scene();
     private final Scene tried = new Scene();
     private final History history = new History();
@@ -65,7 +66,7 @@ public final class FollowCab {
     }
 
     public int town() {
-        reader.readAll(text);
+        reader.readAll();
         text.length = 0;
         faultPlace = reader.faultPlace;
         if (reader.faultNumber != 0) {
@@ -396,6 +397,15 @@ public final class FollowCab {
         return (set >> k & 1) != 0;
     }
 
+    private static int leastOf(int set) {
+        for (int c = 0; c < MOST_CARS; c++) {
+            if (isIn(set, c)) {
+                return c;
+            }
+        }
+        return NONE;
+    }
+
     /** What step() and drift() refuse alike; 0: nothing. */
     private int refusalOfSteps(int n) {
         if (n < 1 || n > MOST_STEPS_AT_ONCE) {
@@ -582,7 +592,8 @@ public final class FollowCab {
         int leastOfRings() {
             int set = 0;
             for (int c = 0; c < cars; c++) {
-                set |= Integer.lowestOneBit(ringOf(c));
+                int ring = ringOf(c);
+                set |= ring & -ring;
             }
             return set;
         }
@@ -625,7 +636,7 @@ public final class FollowCab {
                 at = leader[at];
             }
             int ring = ringOf(at);
-            return ring == 0 ? at : Integer.numberOfTrailingZeros(ring);
+            return ring == 0 ? at : leastOf(ring);
         }
 
         int heads() {
@@ -683,27 +694,30 @@ public final class FollowCab {
         int odds = 0;
         int faultNumber = 0;
         int faultPlace = NONE;
-        private Text text = null;
+        private final Text text;
         private int place = 0;
         private int numberPlace = 0;
 
-        void readAll(Text source) {
+        Reader(Text source) {
+            text = source;
+        }
+
+        void readAll() {
             scene.clear();
             corners = 0;
             odds = 0;
             faultNumber = 0;
             faultPlace = NONE;
-            text = source;
             place = 0;
             skipBlanks();
-            for (int i = 0; i <= MOST_LETTERS && faultNumber == 0 && place < source.length; i++) {
+            for (int i = 0; i <= MOST_LETTERS && faultNumber == 0 && place < text.length; i++) {
                 readClause();
                 skipBlanks();
             }
         }
 
         private int letter() {
-            return text == null ? NONE : text.at(place);
+            return text.at(place);
         }
 
         private boolean isFigure() {
@@ -768,7 +782,7 @@ public final class FollowCab {
 
         /** A first 0 is a figure of the ROUND too, though the number's worth does not show it. */
         private boolean isRound(int round) {
-            return text != null && text.at(numberPlace) != '0' && Figures.areAllUpTo(round, corners);
+            return text.at(numberPlace) != '0' && Figures.areAllUpTo(round, corners);
         }
 
         private void readFollowing() {
@@ -974,7 +988,7 @@ public final class FollowCab {
         int value = 0;
 
         int drawOf(int n) {
-            value = value * 1103515245 + 12345 & Integer.MAX_VALUE;
+            value = value * 1103515245 + 12345 & GREATEST_SEED;
             return n > 0 ? value / 65536 % n : 0;
         }
     }

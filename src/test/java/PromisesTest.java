@@ -268,6 +268,14 @@ public final class PromisesTest {
         due("5: told(12)", x.told(12), OUTSIDE);
         due("5: told(-1)", x.told(-1), OUTSIDE);
         due("5: told(LOW)", x.told(LOW), OUTSIDE);
+        FollowCab eight = Checks.inTown(RINGS);
+        due("5: corners of eight", eight.told(5), 0b101111111);
+        due("5: followers of eight", eight.told(6), 0b01111111);
+        due("5: head of eight", eight.told(8), 0);
+        eight.step(3);
+        // the ring is as it was, 3 at corner 2, 4 at 1, 5 and 6 have changed places, 7 is at 0
+        due("5: corners of eight", eight.told(5), 0b001100111);
+        due("5: head of eight", eight.told(8), 0b110);
         due("5: rings there", Checks.inTown(RINGS).told(7), 2);
         // in a ring each is behind each: two at one corner are both told, and not one that is elsewhere
         due("5: head of a ring", Checks.inTown("t2 0;c0 1;c0 1;c1 1;c0 1;f0 1;f1 2;f2 0;").told(8), 0b011);
@@ -405,6 +413,13 @@ public final class PromisesTest {
         due("11: 0 follows 3", sure.car(0, 1), 3);
         due("11: three draws", sure.seed(0), 654583775);
         due("11: it follows ahead of the step", sure.car(0, 0), 1);
+        // the second, 68 of 100, is below 69 and not below 68
+        FollowCab at = Checks.inTown("t2 68;c0 1;c1 2;c0 2;c1 1;c0 1;");
+        at.drift(1);
+        due("11: not below", at.told(6), 0);
+        FollowCab below = Checks.inTown("t2 69;c0 1;c1 2;c0 2;c1 1;c0 1;");
+        below.drift(1);
+        due("11: below", below.told(6), 1);
         FollowCab never = Checks.inTown("t2 0;c0 1;c1 2;");
         never.drift(60);
         due("11: never asked", never.told(6), 0);
@@ -618,6 +633,8 @@ public final class PromisesTest {
         due("20: never", Checks.inTown("t2 0;c0 1;c1 2;").handed(0, 1), NONE);
         // handed on within one corner at once: 0 has it, 1 and 2 are beside it
         due("20: all at one corner", Checks.inTown("t2 0;c0 1;c0 2;c0 2;").handed(0, 2), 0);
+        FollowCab slow = Checks.inTown("t9 0;c0 11719;c1 222229;c2 37171;c3 444654;c4 54555;c5 663462;c6 75997;c7 888386;");
+        due("20: through many", slow.handed(0, 7), 166);
         due("20: nothing changes", x.told(4), 0);
     }
 
@@ -732,6 +749,9 @@ public final class PromisesTest {
         due("25: look(-1)", x.look(-1), UNKNOWN);
         due("25: nothing changes", x.car(3, 1), 2);
         // 1 is at corner 0 but at its fifth step, 2 but at its sixth; 0 is there one step later
+        // 1 and 2 are elsewhere at once only behind 29 steps of 30, which 0 shows behind 30: three parts, else two at most
+        due("25: behind thirty", Checks.inTown("t3 0;c0 1;c0 11121;c0 111131;c0 1;").look(0), 30);
+        due("25: not behind thirty-one", Checks.inTown("t3 0;c0 1;c0 11112;c0 111113;c0 1;").look(0), 6);
         due("25: behind six", Checks.inTown("t2 0;c1 1;c0 11112;c0 111112;").look(0), 6);
     }
 
