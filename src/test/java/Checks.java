@@ -17,6 +17,10 @@ final class Checks {
         due(what, so ? 1 : 0, 1);
     }
 
+    int made() {
+        return made;
+    }
+
     static void feedAll(FollowCab cab, String text) {
         for (int i = 0; i < text.length(); i++) {
             cab.feed(text.charAt(i));

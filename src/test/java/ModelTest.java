@@ -38,7 +38,7 @@ public final class ModelTest {
             // What is seen by mere chance fits nobody soon, so most of it is made to be so by somebody.
             if (name.equals("see") && random.nextInt(4) != 0) a[2] = model.seenBy(a[0], random.nextInt(8), a[1], a[2]);
             call(run, cab, model, name, a);
-            if (random.nextInt(40) == 0) call(run, cab, model, "feed", new int[] {random.nextInt(300) - 20, 0, 0});
+            if (random.nextInt(40) == 0 && ++calls < CALLS) call(run, cab, model, "feed", new int[] {random.nextInt(300) - 20, 0, 0});
         }
     }
 
